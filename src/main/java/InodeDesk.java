@@ -37,7 +37,7 @@ public final class InodeDesk {
     private static final int SIZE = 4;
     private static final int TIMES = 8;
     private static final int LINKS = 26;
-    private static final int HALF_BLOCKS = 28;
+    private static final int TWICE_BLOCKS = 28;
     private static final int POINTERS = 40;
     private static final int INDIRECT = 88;
     private static final int DOUBLY = 92;
@@ -807,7 +807,7 @@ public final class InodeDesk {
             }
             disk.fill(block * BLOCK, block * BLOCK + BLOCK, 0);
             disk.put4(pointer, block);
-            disk.put4(at + HALF_BLOCKS, disk.get4(at + HALF_BLOCKS) + 2);
+            disk.put4(at + TWICE_BLOCKS, disk.get4(at + TWICE_BLOCKS) + 2);
         }
 
         /** Block n, the last one, goes, and then what needs not point any more. */
@@ -828,7 +828,7 @@ public final class InodeDesk {
         private void lose(int at, int pointer) {
             blockPool.giveBack(disk.get4(pointer));
             disk.put4(pointer, 0);
-            disk.put4(at + HALF_BLOCKS, disk.get4(at + HALF_BLOCKS) - 2);
+            disk.put4(at + TWICE_BLOCKS, disk.get4(at + TWICE_BLOCKS) - 2);
         }
 
         int addDirectoryBlock(int inode) {
@@ -1073,7 +1073,6 @@ public final class InodeDesk {
             this.seed = seed;
         }
 
-        @Override
         int valueAt(int i) {
             return seed + i * i + (i >> 8) & 255;
         }
@@ -1111,7 +1110,6 @@ public final class InodeDesk {
             return had;
         }
 
-        @Override
         int valueAt(int i) {
             return i >= 0 && i < bytes.length ? bytes[i] & 255 : 0;
         }
@@ -1204,8 +1202,8 @@ public final class InodeDesk {
             int count = Inodes.blocksFor(size);
             return disk.isZero(at + 2, at + SIZE)
                     && disk.isZero(at + TIMES + 12, at + LINKS)
-                    && disk.get4(at + HALF_BLOCKS) == 2 * Inodes.withIndirect(count)
-                    && disk.isZero(at + HALF_BLOCKS + 4, at + POINTERS)
+                    && disk.get4(at + TWICE_BLOCKS) == 2 * Inodes.withIndirect(count)
+                    && disk.isZero(at + TWICE_BLOCKS + 4, at + POINTERS)
                     && disk.isZero(at + DOUBLY + 4, at + INODE_BYTES)
                     && pointersHold(at, count);
         }
@@ -1285,7 +1283,7 @@ public final class InodeDesk {
             return inodes.links(directory) == links;
         }
 
-        /** Whether it is of a right length and kind; an empty one only where a block begins. */
+        /** Whether its length, kind and fill are right; an empty one stands only where a block begins. */
         private boolean entryHolds(int place) {
             int entry = listing.entryAt(place);
             int length = listing.lengthOf(place);
@@ -1296,7 +1294,9 @@ public final class InodeDesk {
                 return fits && entry % BLOCK == 0;
             }
             int kind = inodes.isDirectory(inode) ? 2 : 1;
-            return fits && disk.get(entry + ENTRY_KIND) == kind;
+            int behind = entry + ENTRY_HEAD + listing.nameLengthOf(place);
+            return fits && disk.get(entry + ENTRY_KIND) == kind
+                    && disk.isZero(behind, entry + listing.usedBy(place));
         }
 
         private boolean nameHolds(int place) {
@@ -1307,16 +1307,12 @@ public final class InodeDesk {
                     return false;
                 }
             }
-            int name = listing.entryAt(place) + ENTRY_HEAD;
-            if (length < 1 || !disk.isZero(name + length, name - ENTRY_HEAD + listing.usedBy(place))) {
-                return false;
-            }
             for (int other = 0; other < place; other++) {
                 if (listing.inodeOf(other) != 0 && sameName(other, place)) {
                     return false;
                 }
             }
-            return true;
+            return length > 0;
         }
 
         private boolean sameName(int one, int other) {
