@@ -18,7 +18,11 @@ public final class FaultTest {
         pointers();
         entries();
         wholeTree();
+        sharedBlock();
         manyFaults();
+        buildLarge();
+        doublyIndirect();
+        emptyEntry();
         System.out.println("FaultTest: " + wrong + " wrong");
         if (wrong != 0) {
             System.exit(1);
@@ -61,6 +65,27 @@ public final class FaultTest {
         desk.enter(1);
         make("e", true);
         make("x", false);
+        reach();
+    }
+
+    /** Inode 12 is a file of 280000 bytes; the root's second block begins with an empty entry. */
+    private static void buildLarge() throws ReflectiveOperationException {
+        desk = new InodeDesk(512);
+        desk.format(256, 100, 9);
+        make("f", false);
+        desk.grow(0, 280000, 1);
+        for (int i = 0; desk.items() < 8; i++) {
+            for (int j = 0; j < 12; j++) {
+                desk.feed(0x2D2D2D2D, 0x2D2D2D2D, 0x2D2D2D2D, 0x2D2D2D2D, 0x2D2D2D2D);
+                desk.end(20);
+            }
+            make("" + i, false);
+        }
+        desk.remove(4);
+        reach();
+    }
+
+    private static void reach() throws ReflectiveOperationException {
         Field field = InodeDesk.class.getDeclaredField("disk");
         field.setAccessible(true);
         Object inside = field.get(desk);
@@ -167,6 +192,54 @@ public final class FaultTest {
         disk[inodeAt(14) + 26] = 3;
         due("a ring of directories", 1);
         System.arraycopy(kept, 0, disk, 0, disk.length);
+        due("put right again", 0);
+    }
+
+    /** The file has a block of d, and its own one is free: all counts and maps are right. */
+    private static void sharedBlock() {
+        byte[] kept = disk.clone();
+        disk[inodeAt(12) + 40] = 22;
+        disk[3 * 1024] &= (byte) ~(1 << 7);
+        for (int head = 1; head < 128; head += 64) {
+            disk[1024 * head + 12]++;
+            disk[1024 * head + 1024 + 12]++;
+        }
+        due("a block of two inodes, all else right", 1);
+        System.arraycopy(kept, 0, disk, 0, disk.length);
+        due("put right again", 0);
+    }
+
+    private static int number(int at) {
+        return disk[at] & 255 | (disk[at + 1] & 255) << 8;
+    }
+
+    private static void doublyIndirect() {
+        due("a large file", 0);
+        int doubly = 1024 * number(1024 * 5 + 128 * 11 + 92);
+        int row = 1024 * number(doubly);
+        for (int i = 0; i < 1024; i++) {
+            flip("the doubly indirect block", doubly + i, 1);
+            flip("its indirect block", row + i, 1);
+        }
+        due("put right again", 0);
+    }
+
+    private static void emptyEntry() {
+        int second = 1024 * number(1024 * 5 + 128 + 44);
+        if (number(second) != 0 || number(second + 4) == 0) {
+            wrong++;
+            System.out.println("the root's second block does not begin with an empty entry");
+        }
+        int length = number(second + 4);
+        spoil("an empty entry that is longer", second + 4, length + 4, 1);
+        spoil("an empty entry that is shorter", second + 4, length - 4, 1);
+        spoil("an empty entry of length 0", second + 4, 0, 1);
+        spoil("an empty entry that crosses the block", second + 5, 5, 1);
+        spoil("what stays of an empty entry", second + 6, 3, 0);
+        spoil("what stays of an empty entry", second + 7, 9, 0);
+        spoil("what stays of an empty entry", second + 8, 0, 0);
+        int next = second + length;
+        spoil("an empty entry that is not the first", next, 0, 1);
         due("put right again", 0);
     }
 

@@ -540,7 +540,7 @@ public final class ModelTest {
         final InodeDesk desk;
         final Model model;
         final int style;
-        int names = 0;
+        final List<String> names = new ArrayList<>();
 
         Run(int run) {
             this.run = run;
@@ -648,13 +648,18 @@ public final class ModelTest {
             if (kind == 1 && model.made && !model.itemSlots(model.here).isEmpty()) {
                 return model.itemSlots(model.here).get(0).name;
             }
+            // Names of before come again: in other directories, and where they have gone.
+            if (kind < 7 && !names.isEmpty()) {
+                return names.get(random.nextInt(names.size()));
+            }
             int length = 1 + random.nextInt(style == 0 ? 250 : style == 1 ? 120 : 12);
             StringBuilder name = new StringBuilder();
-            name.append(names++);
+            name.append(names.size());
             while (name.length() < length) {
                 char letter = (char) (1 + random.nextInt(255));
                 name.append(letter == '/' ? 'x' : letter);
             }
+            names.add(name.toString());
             return name.toString();
         }
 

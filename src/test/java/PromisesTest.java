@@ -33,6 +33,7 @@ public final class PromisesTest {
         growPointers();
         growDoubly();
         growRefused();
+        growEdges();
         cut();
         cutPointers();
         remove();
@@ -587,6 +588,8 @@ public final class PromisesTest {
         due("its inode is 0", number(desk, 1024 * 10, 4), 0);
         due("its name stays", desk.byteAt(1024 * 10 + 8), 'd');
         due("items()", desk.items(), 9);
+        due("its name is free again, in the empty entry itself", make(desk, "d" + "-".repeat(247), false), 4);
+        desk.remove(4);
         due("the empty entry is replaced whole", make(desk, "e" + "=".repeat(247), false), 4);
         due("its length", number(desk, 1024 * 10 + 4, 2), 256);
         due("fault()", desk.fault(), 0);
@@ -784,6 +787,35 @@ public final class PromisesTest {
         refused("grow(0, 1, 0)", UNSUPPORTED, () -> desk.grow(0, 1, 0));
     }
 
+    /** As many blocks as are wanted do, and one fewer don't, at each step of the indirect ones. */
+    private static void growEdges() {
+        promise = 16;
+        int[] blocks = {1, 11, 12, 13, 14, 267, 268, 269, 270};
+        int[] wanted = {1, 11, 12, 14, 15, 268, 269, 272, 273};
+        for (int i = 0; i < blocks.length; i++) {
+            int n = 1024 * blocks[i];
+            InodeDesk few = leaving(wanted[i] - 1);
+            refused("grow to " + blocks[i] + " blocks", UNSUPPORTED, () -> few.grow(0, n, 0));
+            due("many(0)", few.many(0), wanted[i] - 1);
+            InodeDesk enough = leaving(wanted[i]);
+            due("grow to " + blocks[i] + " blocks", enough.grow(0, n, 0), n);
+            due("many(0)", enough.many(0), 0);
+            due("fault()", enough.fault(), 0);
+            due("cut(0, 0)", enough.cut(0, 0), wanted[i]);
+        }
+    }
+
+    /** So many blocks are free; item 0 is an empty file. */
+    private static InodeDesk leaving(int free) {
+        InodeDesk desk = volume(512, 256, 64);
+        make(desk, "f", false);
+        while (desk.many(0) > free) {
+            int filler = make(desk, "n" + desk.items(), false);
+            desk.grow(filler, 1024 * Math.min(12, desk.many(0) - free), 0);
+        }
+        return desk;
+    }
+
     private static void cut() {
         promise = 17;
         InodeDesk desk = volume(512, 256, 12);
@@ -796,6 +828,7 @@ public final class PromisesTest {
         due("cut(0, 274433): blocks 269 to 273", desk.cut(0, 274433), 5);
         due("cut(0, 274432): and both indirect ones", desk.cut(0, 274432), 3);
         due("about(0, 2)", desk.about(0, 2), 274432);
+        due("fault()", desk.fault(), 0);
         refused("cut(0, 274433) behind its end", ARGUMENT, () -> desk.cut(0, 274433));
         refused("cut(0, -1)", ARGUMENT, () -> desk.cut(0, -1));
         refused("cut(0, MIN)", ARGUMENT, () -> desk.cut(0, Integer.MIN_VALUE));
