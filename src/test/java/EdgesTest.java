@@ -451,6 +451,13 @@ public final class EdgesTest extends Kit {
         }
         refused("format(64, 3, 0)", ARGUMENT, () -> desk.format(64, 3, 0));
         due("fault() behind a refused format", desk.fault(), 0);
+        int[] sizes = {128, 256, 64};
+        for (int p : sizes) {
+            desk.format(p, 300, -1);
+            due("fault() behind another format", desk.fault(), 0);
+            desk.directory("d");
+            due("fault() with an item then", desk.fault(), 0);
+        }
     }
 
     private static void faultWithout() {

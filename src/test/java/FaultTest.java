@@ -1,4 +1,5 @@
 import java.lang.reflect.Field;
+import java.util.Arrays;
 import java.util.Random;
 
 /**
@@ -19,10 +20,13 @@ public final class FaultTest {
         entries();
         wholeTree();
         sharedBlock();
+        reservedInodes();
+        itemsInodes();
         manyFaults();
         buildLarge();
         doublyIndirect();
         emptyEntry();
+        longNames();
         System.out.println("FaultTest: " + wrong + " wrong");
         if (wrong != 0) {
             System.exit(1);
@@ -209,6 +213,39 @@ public final class FaultTest {
         due("put right again", 0);
     }
 
+    /** The map and all counts tell that an inode of group 0 is free. */
+    private static void tellFree(int inode) {
+        disk[4 * 1024 + (inode - 1) / 8] &= (byte) ~(1 << (inode - 1) % 8);
+        for (int head = 1; head < 128; head += 64) {
+            disk[1024 * head + 16]++;
+            disk[1024 * head + 1024 + 14]++;
+        }
+    }
+
+    private static void reservedInodes() {
+        byte[] kept = disk.clone();
+        for (int inode = 1; inode <= 11; inode++) {
+            tellFree(inode);
+            due("inode " + inode + " is free, all else right", 1);
+            System.arraycopy(kept, 0, disk, 0, disk.length);
+        }
+        due("put right again", 0);
+    }
+
+    /** The inode of the item "x" is free, all else is right, and its entry has another one. */
+    private static void itemsInodes() {
+        byte[] kept = disk.clone();
+        int[] others = {1, 3, 11, 12, 15, 16, 32, 33};
+        for (int inode : others) {
+            tellFree(15);
+            Arrays.fill(disk, inodeAt(15), inodeAt(16), (byte) 0);
+            disk[22 * 1024 + 36] = (byte) inode;
+            due("an item with inode " + inode, 1);
+            System.arraycopy(kept, 0, disk, 0, disk.length);
+        }
+        due("put right again", 0);
+    }
+
     private static int number(int at) {
         return disk[at] & 255 | (disk[at + 1] & 255) << 8;
     }
@@ -240,6 +277,18 @@ public final class FaultTest {
         spoil("what stays of an empty entry", second + 8, 0, 0);
         int next = second + length;
         spoil("an empty entry that is not the first", next, 0, 1);
+        spoil("an item with the name that stays in an empty entry", next + 8 + 240, disk[second + 8 + 240], 0);
+        due("put right again", 0);
+    }
+
+    /** The second item's name has 241 letters, as the third's has, and only its last one differs. */
+    private static void longNames() {
+        int root = 1024 * number(1024 * 5 + 128 + 40);
+        int second = root + 36;
+        int third = second + 252;
+        spoil("a letter in the middle of a name", second + 8 + 100, 'x', 0);
+        spoil("the last letter that makes two names alike", second + 8 + 240, disk[third + 8 + 240], 1);
+        spoil("the first letter of what must not be two dots", second + 8, '.', 0);
         due("put right again", 0);
     }
 
