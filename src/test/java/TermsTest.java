@@ -115,6 +115,7 @@ public final class TermsTest extends Kit {
 
     private static void hereAndTape() {
         sentence("HERE is a directory, the root, inode 2, at first", TermsTest::hereAtFirst);
+        sentence("NONE = -1", () -> due("NONE", InodeDesk.NONE, -1));
         sentence("THE TAPE: at most 4096 bytes", TermsTest::fullTape);
         sentence("used up by the call that reads it, whatever comes of it", TermsTest::tapeUsedUp);
     }
